@@ -43,6 +43,7 @@ public final class MatchedFlows {
         for (int i = 0; i < ROWS; i++) {
             rows[i] = new Program();
         }
+        rows[now].addProc();
     }
 
     // ---- a program
@@ -82,7 +83,7 @@ public final class MatchedFlows {
         if (!program.isNode(n) || what < 0 || what > 1) {
             return refused(BAD);
         }
-        return what == 0 ? program.procOf[n] : program.kindOf(n);
+        return what == 0 ? program.procOf[n] : program.kindOf[n];
     }
 
     public int about(int e, int what) {
@@ -105,16 +106,22 @@ public final class MatchedFlows {
         if (what < 0 || what > 5) {
             return refused(BAD);
         }
-        return counted(what);
+        Program program = rows[now];
+        if (what >= 4) {
+            table.fill(program, 0, program.start);
+        }
+        return counted(program, what);
     }
 
     // ---- what holds
 
     public int holds(int n) {
-        if (!rows[now].isNode(n)) {
+        Program program = rows[now];
+        if (!program.isNode(n)) {
             return refused(BAD);
         }
-        return startTable().factsAt(n);
+        table.fill(program, 0, program.start);
+        return table.factsAt(n);
     }
 
     public int loose(int n) {
@@ -155,7 +162,7 @@ public final class MatchedFlows {
         int found = 0;
         for (int c = 0; c < FACTS; c++) {
             if (has(ins, c)) {
-                found |= program.carry(e, OUT, table.seen[cell(program.exitOf(q), c)]);
+                found |= program.carry(e, OUT, table.seen[cell(program.exitOf[q], c)]);
             }
         }
         return found;
@@ -165,22 +172,25 @@ public final class MatchedFlows {
         if (i < 0 || what < 0 || what > 3) {
             return refused(BAD);
         }
-        return i < startTable().size ? partOfEntry(i, what) : NONE;
+        Program program = rows[now];
+        table.fill(program, 0, program.start);
+        return i < table.size ? partOfEntry(program, i, what) : NONE;
     }
 
     public int witness(int n, int f, int i) {
-        if (!rows[now].isNode(n) || !isFact(f) || i < NONE) {
+        Program program = rows[now];
+        if (!program.isNode(n) || !isFact(f) || i < NONE) {
             return refused(BAD);
         }
-        Table filled = startTable();
-        int first = filled.firstWith(n, f);
+        table.fill(program, 0, program.start);
+        int first = table.firstWith(n, f);
         if (first == NONE) {
             return NONE;
         }
         if (i == NONE) {
-            return filled.way[first];
+            return table.way[first];
         }
-        return i < filled.way[first] ? filled.pairOfWay(first, i) : NONE;
+        return i < table.way[first] ? table.pairOfWay(first, i) : NONE;
     }
 
     // ---- texts
@@ -229,14 +239,17 @@ public final class MatchedFlows {
     }
 
     public long digest() {
+        Program program = rows[now];
+        table.fill(program, 0, program.start);
+        spread.fill(program);
         long h = 1807;
         for (int what = 0; what <= 4; what++) {
             h = 31 * h + tally(what);
         }
         for (int what = 0; what <= 5; what++) {
-            h = 31 * h + counted(what);
+            h = 31 * h + counted(program, what);
         }
-        return digestOfEdges(digestOfNodes(h));
+        return digestOfEdges(program, digestOfNodes(program, h));
     }
 
     // ---- inside
@@ -291,12 +304,6 @@ public final class MatchedFlows {
         return why;
     }
 
-    private Table startTable() {
-        Program program = rows[now];
-        table.fill(program, 0, program.start);
-        return table;
-    }
-
     private int partOfEdge(Program program, int e, int what) {
         switch (what) {
             case 0:
@@ -308,10 +315,10 @@ public final class MatchedFlows {
         }
     }
 
-    private int partOfEntry(int i, int what) {
+    private int partOfEntry(Program program, int i, int what) {
         switch (what) {
             case 0:
-                return rows[now].procOf[table.nodeOf(i)];
+                return program.procOf[table.nodeOf(i)];
             case 1:
                 return table.factAtEntry(i);
             case 2:
@@ -321,8 +328,8 @@ public final class MatchedFlows {
         }
     }
 
-    private int counted(int what) {
-        Program program = rows[now];
+    /** What is counted of THE TABLE (4 and 5) needs it filled. */
+    private int counted(Program program, int what) {
         switch (what) {
             case 0:
                 return program.procs;
@@ -333,18 +340,16 @@ public final class MatchedFlows {
             case 3:
                 return program.start;
             case 4:
-                return startTable().size;
+                return table.size;
             default:
-                return nodesReached();
+                return nodesReached(program);
         }
     }
 
-    private int nodesReached() {
-        Table filled = startTable();
-        int nodes = rows[now].nodes;
+    private int nodesReached(Program program) {
         int found = 0;
-        for (int n = 0; n < nodes; n++) {
-            found += filled.factsAt(n) & 1;
+        for (int n = 0; n < program.nodes; n++) {
+            found += table.factsAt(n) & 1;
         }
         return found;
     }
@@ -386,22 +391,18 @@ public final class MatchedFlows {
         }
     }
 
-    private long digestOfNodes(long before) {
-        Program program = rows[now];
-        Table filled = startTable();
-        spread.fill(program);
+    private long digestOfNodes(Program program, long before) {
         long h = before;
         for (int n = 0; n < program.nodes; n++) {
             h = 31 * h + program.procOf[n];
-            h = 31 * h + program.kindOf(n);
-            h = 31 * h + filled.factsAt(n);
+            h = 31 * h + program.kindOf[n];
+            h = 31 * h + table.factsAt(n);
             h = 31 * h + spread.reached[n];
         }
         return h;
     }
 
-    private long digestOfEdges(long before) {
-        Program program = rows[now];
+    private long digestOfEdges(Program program, long before) {
         long h = before;
         for (int e = 0; e < program.edges; e++) {
             for (int what = 0; what <= 2; what++) {
@@ -420,12 +421,14 @@ public final class MatchedFlows {
         /** Each FACT goes to itself alone: byte a of a FLOW holds the FACTS to which FACT a goes. */
         private static final long PLAIN_FLOW = 0x8040201008040201L;
 
-        int procs = 1;
-        int nodes = 2;
+        int procs = 0;
+        int nodes = 0;
         int edges = 0;
         int start = 1;
         final int[] entryOf = new int[MAX_PROCS];
+        final int[] exitOf = new int[MAX_PROCS];
         final int[] procOf = new int[MAX_NODES];
+        final int[] kindOf = new int[MAX_NODES];
         final int[] from = new int[MAX_EDGES];
         final int[] to = new int[MAX_EDGES];
         final int[] callee = new int[MAX_EDGES];
@@ -437,7 +440,9 @@ public final class MatchedFlows {
             edges = other.edges;
             start = other.start;
             System.arraycopy(other.entryOf, 0, entryOf, 0, procs);
+            System.arraycopy(other.exitOf, 0, exitOf, 0, procs);
             System.arraycopy(other.procOf, 0, procOf, 0, nodes);
+            System.arraycopy(other.kindOf, 0, kindOf, 0, nodes);
             System.arraycopy(other.from, 0, from, 0, edges);
             System.arraycopy(other.to, 0, to, 0, edges);
             System.arraycopy(other.callee, 0, callee, 0, edges);
@@ -456,22 +461,10 @@ public final class MatchedFlows {
             return e >= 0 && e < edges;
         }
 
-        int exitOf(int p) {
-            return entryOf[p] + 1;
-        }
-
-        int kindOf(int n) {
-            int p = procOf[n];
-            if (n == entryOf[p]) {
-                return ENTRY;
-            }
-            return n == exitOf(p) ? EXIT : ANOTHER;
-        }
-
         /** Whether an EDGE may begin at n and end at m. */
         boolean joins(int n, int m) {
             return isNode(n) && isNode(m) && procOf[n] == procOf[m]
-                    && kindOf(n) != EXIT && kindOf(m) != ENTRY;
+                    && kindOf[n] != EXIT && kindOf[m] != ENTRY;
         }
 
         int flowsOf(int e) {
@@ -501,9 +494,9 @@ public final class MatchedFlows {
                 return FULL;
             }
             entryOf[procs] = nodes;
-            procOf[nodes] = procs;
-            procOf[nodes + 1] = procs;
-            nodes += 2;
+            placeNode(procs, ENTRY);
+            exitOf[procs] = nodes;
+            placeNode(procs, EXIT);
             return procs++;
         }
 
@@ -514,7 +507,12 @@ public final class MatchedFlows {
             if (nodes >= MAX_NODES) {
                 return FULL;
             }
+            return placeNode(p, ANOTHER);
+        }
+
+        private int placeNode(int p, int kind) {
             procOf[nodes] = p;
+            kindOf[nodes] = kind;
             return nodes++;
         }
 
@@ -594,7 +592,7 @@ public final class MatchedFlows {
         final int[] seen = new int[CELLS];
         private final int[] keys = new int[MOST];
         private final int[] placeOf = new int[MOST];
-        /** How each came first: the one TAKEN or the CALLER (NONE: it came first of all), and by OUT the one at the EXIT. */
+        /** How each came first: by the one TAKEN or the CALLER (NONE: as a first one), by OUT through the one at the EXIT. */
         private final int[] before = new int[MOST];
         private final int[] through = new int[MOST];
         /** How many PAIRS the WAY and the INNER of each have, 1000 at most. */
@@ -665,7 +663,7 @@ public final class MatchedFlows {
             int y = x;
             int left = i;
             int[] lengths = way;
-            for (int step = 0; step < MOST && lengths[y] > 1; step++) {
+            for (int step = 0; step < MOST && lengths[y] > 1 && before[y] != NONE; step++) {
                 int ahead = lengths[before[y]];
                 int z = through[y];
                 if (left < ahead) {
@@ -683,7 +681,7 @@ public final class MatchedFlows {
 
         private void take(Program program, int x) {
             int n = nodeOf(x);
-            if (program.kindOf(n) == EXIT) {
+            if (program.kindOf[n] == EXIT) {
                 returnToCallers(program, x);
                 return;
             }
@@ -709,7 +707,7 @@ public final class MatchedFlows {
             for (int c = 0; c < FACTS; c++) {
                 if (has(ins, c)) {
                     come(program, cell(program.entryOf[q], c), 1 << c, x, NONE);
-                    leaveAsKnown(program, x, e, cell(program.exitOf(q), c));
+                    leaveAsKnown(program, x, e, cell(program.exitOf[q], c));
                 }
             }
         }
@@ -731,7 +729,7 @@ public final class MatchedFlows {
             }
         }
 
-        /** The sites stand in the order in which CALLERS are noted; a site is one of (p, a) if it calls p and its IN gives a. */
+        /** Sites stand in the order in which CALLERS are noted; one is a CALLER of (p, a) if it calls p and its IN gives a. */
         private void returnToCallers(Program program, int z) {
             int p = program.procOf[nodeOf(z)];
             int a = factAtEntry(z);
@@ -746,25 +744,26 @@ public final class MatchedFlows {
 
         private void come(Program program, int cell, int facts, int y, int z) {
             int fresh = facts & ~seen[cell];
-            for (int b = 0; b < FACTS && fresh >> b != 0; b++) {
+            if (fresh == 0) {
+                return;
+            }
+            boolean first = y == NONE;
+            boolean begins = first || program.kindOf[cell / FACTS] == ENTRY;
+            int within = 1 + (z == NONE ? 0 : inner[z]);
+            int wayLength = first ? 1 : Math.min(way[y] + within, MAX_PAIRS);
+            int innerLength = begins ? 1 : Math.min(inner[y] + within, MAX_PAIRS);
+            seen[cell] |= fresh;
+            for (int b = 0; b < FACTS; b++) {
                 if (has(fresh, b) && size < MOST) {
-                    seen[cell] |= 1 << b;
                     keys[size] = cell * FACTS + b;
                     placeOf[cell * FACTS + b] = size;
                     before[size] = y;
                     through[size] = z;
-                    measure(program, size, y, z);
+                    way[size] = wayLength;
+                    inner[size] = innerLength;
                     size++;
                 }
             }
-        }
-
-        private void measure(Program program, int x, int y, int z) {
-            int within = z == NONE ? 0 : inner[z];
-            boolean first = y == NONE;
-            way[x] = first ? 1 : Math.min(way[y] + within + 1, MAX_PAIRS);
-            boolean begins = first || program.kindOf(nodeOf(x)) == ENTRY;
-            inner[x] = begins ? 1 : Math.min(inner[y] + within + 1, MAX_PAIRS);
         }
     }
 
@@ -799,7 +798,7 @@ public final class MatchedFlows {
             boolean grew = addTo(m, program.carry(e, BESIDE, reached[n]));
             if (q != NONE) {
                 grew |= addTo(program.entryOf[q], program.carry(e, IN, reached[n]));
-                grew |= addTo(m, program.carry(e, OUT, reached[program.exitOf(q)]));
+                grew |= addTo(m, program.carry(e, OUT, reached[program.exitOf[q]]));
             }
             return grew;
         }
