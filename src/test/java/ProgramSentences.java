@@ -389,6 +389,10 @@ final class ProgramSentences {
             d.refused("edge " + v[0] + " " + v[1], Due.made(some), Due.made(some), BAD, x -> x.edge(v[0], v[1]));
         }
         d.due("the last NODE", Due.made(some).edge(2, 5), 1);
+        MatchedFlows gone = Due.made("n0");
+        gone.back();
+        d.due("to a NODE that was taken back", gone.edge(0, 2), BAD);
+        d.due("from a NODE that was taken back", gone.edge(2, 1), BAD);
     }
 
     private static void edgeFull(Due d) {
@@ -418,6 +422,11 @@ final class ProgramSentences {
             d.refused(what, Due.made(some), Due.made(some), BAD, x -> x.call(v[0], v[1], v[2]));
         }
         d.due("the last NODE and PROC", Due.made(some).call(2, 1, 5), 1);
+        MatchedFlows gone = Due.made("p;n0");
+        gone.back();
+        gone.back();
+        d.due("of a PROC that was taken back", gone.call(0, 1, 1), BAD);
+        d.due("back to a NODE that was taken back", gone.call(0, 0, 4), BAD);
     }
 
     private static void callFull(Due d) {

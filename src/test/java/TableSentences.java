@@ -96,6 +96,9 @@ final class TableSentences {
         d.due("back to 4 with 1", x.holds(4), 3);
         d.due("back to 5 with 2", x.holds(5), 5);
         d.due("loosely both", x.loose(4) * 1000 + x.loose(5), 7007);
+        MatchedFlows y = Due.made("p;n0;n0;n0;c4 1 5;c0 1 6;e2 3");
+        d.due("back to the CALL that was come by", y.holds(6), 1);
+        d.due("not to one to which no path comes", y.holds(5), 0);
     }
 
     private static void fourParts(Due d) {
@@ -173,6 +176,8 @@ final class TableSentences {
         d.entries(Due.made("p;c0 1 1;f0 1 0 149"), row(0, 0, 0, 0), row(1, 0, 2, 0), row(1, 2, 2, 2), row(1, 4, 2, 4),
             row(1, 7, 2, 7), row(0, 0, 1, 0));
         d.due("to none", Due.made("p;c0 1 1;s3;f0 1 1 0;f0 0 1 0").count(4), 4);
+        d.entries(Due.made("p;n0;e0 4;c4 1 1;f0 0 0 5;f1 1 2 72"), row(0, 0, 0, 0), row(0, 0, 4, 0), row(0, 0, 4, 2),
+            row(1, 0, 2, 0), row(0, 0, 1, 0), row(1, 3, 2, 3), row(1, 6, 2, 6), row(0, 0, 1, 2));
     }
 
     /** The CALL with the greater number is noted first; FACT 1 comes back by OUT alone. */
@@ -251,6 +256,10 @@ final class TableSentences {
         d.entries(x, row(0, 0, 0, 0), row(1, 0, 2, 0), row(0, 0, 1, 0), row(1, 0, 3, 0), row(0, 0, 1, 4), row(0, 0, 1, 6),
             row(0, 0, 1, 7));
         d.due("to none", Due.made("p;c0 1 1;e2 3;s3;f0 0 1 0;f0 2 1 0").holds(1), 1);
+        // FACT 1 goes in as 2, is 3 at the EXIT, and comes out as 4 and 6.
+        MatchedFlows y = Due.made("p;c0 1 1;e2 3;s3;f0 0 1 0;f0 1 1 4;f1 0 2 8;f0 2 3 80");
+        d.due("by the FACT at the EXIT", y.holds(1), 81);
+        d.due("rising", y.entry(7, 3) * 10 + y.entry(8, 3), 46);
     }
 
     // ---- HOLDS, LOOSE, ORIGINS, SUMMARY
@@ -271,6 +280,7 @@ final class TableSentences {
         MatchedFlows x = Due.made(s + "e0 2;e23 1;s3" + Due.rows(";f# 0 1 4;f# 0 2 2", 0, 20));
         for (int n = 2; n < 24; n++) d.due("at " + n, x.loose(n), n % 2 == 0 ? 3 : 5);
         d.due("at the EXIT", x.loose(1), 5);
+        looseRounds(d);
         MatchedFlows y = Due.made("p;n0;c0 1 4;e2 3;s15;" + notBeside(0, 0)
             + "f0 0 1 16;f0 1 1 0;f0 1 2 32;f0 1 3 0;f0 2 5 64;f0 2 3 0");
         d.due("by IN", y.loose(2), 33);
@@ -278,6 +288,19 @@ final class TableSentences {
         d.due("by BESIDE and OUT", y.loose(4), 81);
         d.due("nowhere from START", y.loose(1), 0);
         d.due("START", y.loose(0), 15);
+    }
+
+    /** FACT 1 becomes 7 by going round and round, each time against the EDGES' numbers. */
+    private static void looseRounds(Due d) {
+        StringBuilder s = new StringBuilder("n0;".repeat(22) + "e23 1;");
+        for (int n = 22; n >= 2; n--) s.append("e" + n + " " + (n + 1) + ";");
+        s.append("e23 2;e0 2;s3;");
+        for (int a = 1; a < 8; a++) s.append("f22 0 " + a + " " + (2 << a & 254) + ";");
+        d.due("seven times round", Due.made(s.toString()).loose(1), 255);
+        d.due("by an EDGE to itself", Due.made("n0;e0 2;e2 2;s3;f1 0 1 4;f1 0 2 8;f1 0 3 16").loose(2), 31);
+        d.due("beside a PROC that was come into", Due.made("p;n0;n0;n0;e4 1;c6 1 4;e0 6;c0 1 5").loose(1), 1);
+        d.due("into a PROC, beside it was come", Due.made("p;n0;n0;e2 3;c5 1 4;e0 5;e0 4;f2 0 0 3").loose(3), 3);
+        d.due("out of a PROC", Due.made("p;n0;e4 1;c0 1 4;e2 3;s3;f1 0 1 0").loose(1), 3);
     }
 
     private static void looseReturns(Due d) {
@@ -296,6 +319,9 @@ final class TableSentences {
         d.due("0 of 0 alone", x.origins(2, 0), 1);
         d.due("no way", x.origins(1, 3), 0);
         d.due("START stays", x.count(3) * 1000 + x.holds(2), 7000 + 25);
+        MatchedFlows two = Due.made("p;e0 1;f0 0 2 8");
+        d.due("of PROC 0's ENTRY, not of the last", two.origins(1, 3), 12);
+        d.due("PROC 1 is not called", two.origins(2, 3), 0);
         MatchedFlows all = Due.made("e0 1;f0 0 0 3" + Due.rows(";f0 0 # 2", 2, 7));
         d.due("of each", all.origins(1, 1), 255);
         d.due("of itself", all.origins(0, 7), 128);
@@ -311,6 +337,16 @@ final class TableSentences {
         d.due("THE TABLE stays", x.count(4), twoCalls().count(4));
         x.cuts(0);
         d.due("no way through", x.summary(2, 3), 0);
+        // PROC 0 comes not to the CALL of PROC 1, and START is what goes in there.
+        MatchedFlows y = Due.made("p;n0;n0;c4 1 5;e2 3;f0 1 0 3;s3");
+        d.due("PROC 1 is not called", y.holds(3), 0);
+        d.due("of PROC 1, not of PROC 0", y.summary(0, 0), 3);
+        d.due("of PROC 0 again", y.holds(3), 0);
+        // PROC 0 calls PROC 2, as PROC 1 does, which is not called; nothing of the SUMMARY of PROC 1 may stay.
+        MatchedFlows z = Due.made("p;p;n0;n0;n0;n1;c6 1 7;c2 2 9;c0 2 8;e4 5;e9 3");
+        d.due("PROC 1 alone", z.summary(0, 0), 1);
+        d.due("back to PROC 0", z.holds(8), 1);
+        d.due("not to PROC 1", z.holds(9), 0);
     }
 
     /** Within, (0, 2) calls (0, 3), whose 5 at the EXIT would go by OUT to 6. */
@@ -382,7 +418,11 @@ final class TableSentences {
         MatchedFlows x = Due.made("p;n0;n0;n1;e0 4;c4 1 5;e2 6;e6 3;e5 1;s3;f1 0 1 0;f1 1 1 4;f2 0 2 8;f1 2 3 16");
         d.pairs(x, 5, 4, 1, 41, 22, 63, 33, 54);
         d.pairs(x, 1, 4, 1, 41, 22, 63, 33, 54, 14);
-        // The same through what is known already: NODE 5 calls when PROC 1 has been gone through.
+        // NODES 4 and 5 call; by 4 PROC 1 was come into first.
+        MatchedFlows two = Due.made("p;n0;n0;n0;n0;e0 4;e0 5;c4 1 6;c5 1 7;e2 3;s3;f2 0 1 0;f3 0 1 0");
+        d.pairs(two, 6, 1, 1, 41, 21, 31, 61);
+        d.pairs(two, 7, 1, 1, 51, 21, 31, 71);
+        // The same through what is known already: NODE 7 calls when PROC 1 has been gone through.
         MatchedFlows y = Due.made("p;n0;n0;n0;n0;n0;e2 3;c0 1 4;e4 5;e5 6;e6 7;c7 1 8;s3;f5 0 1 0;f5 2 1 8");
         d.pairs(y, 8, 3, 1, 41, 51, 61, 71, 21, 31, 83);
     }
@@ -480,6 +520,8 @@ final class TableSentences {
         d.due("all", x.holds(4), 255);
         d.due("into PROC 1", x.holds(2), 255);
         d.due("none", x.holds(3), 0);
+        d.due("all through", Due.more(x, "e2 3").holds(3), 255);
+        d.due("none again", Due.more(x, "x2").holds(3), 0);
         d.due("FACT 7", Due.more(x, "s129").holds(5), 129);
         d.due("the last NODE", Due.made("n0;".repeat(22) + "e0 23").holds(23), 1);
     }
@@ -494,6 +536,8 @@ final class TableSentences {
         d.due("all", x.loose(4), 255);
         d.due("into PROC 1", x.loose(2), 255);
         d.due("none", x.loose(3), 0);
+        d.due("all through", Due.more(x, "e2 3").loose(3), 255);
+        d.due("none again", Due.more(x, "x2").loose(3), 0);
         d.due("FACT 7", Due.more(x, "s129").loose(5), 129);
         d.due("the last NODE", Due.made("n0;".repeat(22) + "e0 23").loose(23), 1);
     }

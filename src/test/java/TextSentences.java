@@ -154,8 +154,9 @@ final class TextSentences {
     }
 
     private static void asCuts(Due d) {
-        MatchedFlows x = done(d, Due.made("n0;e0 2;e2 1;c0 0 1"), "x1;", 1);
-        d.due("two left", x.count(2), 2);
+        MatchedFlows x = done(d, Due.made("n0;e0 2;e2 1;c0 0 1;e0 1"), "x1;", 1);
+        d.due("three left", x.count(2), 3);
+        d.due("the first stays", x.about(0, 1), 2);
         d.due("the CALL is 1", x.about(1, 2), 0);
         d.due("no number", Due.does("x;"), -11);
         d.due("two numbers", Due.does("x0 0;"), -13);
@@ -223,7 +224,7 @@ final class TextSentences {
     }
 
     private static void endsAll(Due d) {
-        String some = "p;n0;e0 4;s3;";
+        String some = "p;n0;e0 4;s3;s5;";
         MatchedFlows x = Due.made(some);
         MatchedFlows twin = Due.made(some);
         d.due("the last", Due.does(x, "p;n2;e4 1;f0 0 1 8;x0;s0;"), -1005);
@@ -231,7 +232,7 @@ final class TextSentences {
         d.due("the first, FULL", Due.does(x, "p;p;p;p;s0;"), -1003);
         d.due("THE TEXT stays", x.clear(), 11);
         d.due("nothing is done", x.digest(), twin.digest());
-        for (int i = 3; i >= 0; i--) {
+        for (int i = 4; i >= 0; i--) {
             d.due("STATES are as they were", x.back(), i);
             twin.back();
             d.due("and what they hold", x.digest(), twin.digest());
@@ -284,7 +285,14 @@ final class TextSentences {
         fault(d, "p;n123", 6);
         fault(d, "p;n 1 ", 6);
         fault(d, "p;".repeat(59) + " p", 120);
+        fault(d, "p;".repeat(58) + " n 1", 120);
+        fault(d, "p;".repeat(58) + "n123", 120);
+        fault(d, "p;".repeat(58) + "n 1 ", 120);
         d.due("not too early", Due.does("p; "), 1);
+        MatchedFlows x = Due.typed(new MatchedFlows(), "s1234;");
+        d.due("what was cleared is not read", Due.does(x, "s12"), -13);
+        d.due("nor is a ; of it", Due.does(Due.typed(x, "p;p;"), "p"), -11);
+        d.due("nor an ORDER of it", Due.does(Due.typed(x, "p;p;"), "p;"), 1);
     }
 
     private static void emptyText(Due d) {
@@ -299,14 +307,14 @@ final class TextSentences {
     }
 
     private static void faultDoesNothing(Due d) {
-        String some = "p;n0;e0 4;s3;";
+        String some = "p;n0;e0 4;s3;s5;";
         MatchedFlows x = Due.made(some);
         MatchedFlows twin = Due.made(some);
         d.due("behind right ones", Due.does(x, "p;s7;x0;q"), -18);
         d.due("ends too early", Due.does(x, "p;s7;x0"), -17);
         d.due("empty", Due.does(x, ""), -10);
         d.due("nothing is done", x.digest(), twin.digest());
-        for (int i = 3; i >= 0; i--) {
+        for (int i = 4; i >= 0; i--) {
             d.due("STATES are as they were", x.back(), i);
             twin.back();
             d.due("and what they hold", x.digest(), twin.digest());
@@ -398,6 +406,10 @@ final class TextSentences {
         x.back();
         x.back();
         d.due("nor by the next", x.told(3) * 10 + x.told(0), 371);
+        MatchedFlows y = Due.made("e0 1;f0 0 0 3");
+        d.due("what holds and is loose now", y.holds(1) * 10 + y.loose(1), 33);
+        y.back();
+        d.due("held and was loose before", y.holds(1) * 10 + y.loose(1), 11);
         d.due("THE TEXT that stayed is cleared", x.clear(), 37);
         x.back();
         d.due("and does not come again", x.told(3), 0);
