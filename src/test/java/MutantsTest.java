@@ -1,28 +1,13 @@
-import java.io.ByteArrayOutputStream;
 import java.io.IOException;
-import java.io.OutputStream;
-import java.net.URI;
-import java.net.URL;
 import java.net.URLClassLoader;
 import java.nio.file.Files;
 import java.nio.file.Path;
 import java.util.ArrayList;
-import java.util.HashMap;
 import java.util.LinkedHashSet;
 import java.util.List;
-import java.util.Map;
 import java.util.Set;
 import java.util.regex.Pattern;
 import java.util.stream.Stream;
-import javax.tools.DiagnosticCollector;
-import javax.tools.FileObject;
-import javax.tools.ForwardingJavaFileManager;
-import javax.tools.JavaCompiler;
-import javax.tools.JavaFileManager;
-import javax.tools.JavaFileObject;
-import javax.tools.SimpleJavaFileObject;
-import javax.tools.StandardJavaFileManager;
-import javax.tools.ToolProvider;
 
 /**
  * The tests tested: for each sentence the class is broken in the ways that src/test/mutants tells, and each time
@@ -31,7 +16,6 @@ import javax.tools.ToolProvider;
 public final class MutantsTest {
     private static final Path SOURCE = Path.of("src/main/java/MatchedFlows.java");
     private static final Path MUTANTS = Path.of("src/test/mutants");
-    private static final JavaCompiler COMPILER = ToolProvider.getSystemJavaCompiler();
 
     private record Mutant(String sentence, String from, String to) { }
 
@@ -91,69 +75,10 @@ public final class MutantsTest {
     }
 
     private static boolean isFound(String source, String sentence) {
-        try (Loader loader = new Loader(compiled(source))) {
+        try (URLClassLoader loader = Compiled.loader("MatchedFlows", source)) {
             return (boolean) loader.loadClass("SentencesTest").getMethod("broken", String.class).invoke(null, sentence);
         } catch (ReflectiveOperationException | IOException e) {
             throw new IllegalStateException(e);
-        }
-    }
-
-    private static Map<String, byte[]> compiled(String source) {
-        DiagnosticCollector<JavaFileObject> problems = new DiagnosticCollector<>();
-        try (Output output = new Output(COMPILER.getStandardFileManager(problems, null, null))) {
-            boolean right = COMPILER.getTask(null, output, problems, List.of("-proc:none"), null, List.of(new Input(source))).call();
-            if (!right) throw new IllegalStateException("does not compile: " + problems.getDiagnostics());
-            return output.classes();
-        } catch (IOException e) {
-            throw new IllegalStateException(e);
-        }
-    }
-
-    private static final class Input extends SimpleJavaFileObject {
-        private final String source;
-
-        Input(String source) {
-            super(URI.create("string:///MatchedFlows.java"), Kind.SOURCE);
-            this.source = source;
-        }
-
-        @Override public CharSequence getCharContent(boolean ignoreErrors) { return source; }
-    }
-
-    /** Classes are kept as bytes, not as files. */
-    private static final class Output extends ForwardingJavaFileManager<StandardJavaFileManager> {
-        private final Map<String, ByteArrayOutputStream> made = new HashMap<>();
-
-        Output(StandardJavaFileManager files) { super(files); }
-
-        @Override public JavaFileObject getJavaFileForOutput(JavaFileManager.Location where, String name, JavaFileObject.Kind kind,
-                FileObject beside) {
-            return new SimpleJavaFileObject(URI.create("mem:///" + name + ".class"), kind) {
-                @Override public OutputStream openOutputStream() {
-                    return made.computeIfAbsent(name, n -> new ByteArrayOutputStream());
-                }
-            };
-        }
-
-        Map<String, byte[]> classes() {
-            Map<String, byte[]> classes = new HashMap<>();
-            made.forEach((name, bytes) -> classes.put(name, bytes.toByteArray()));
-            return classes;
-        }
-    }
-
-    /** The broken class as it was given, and the trials anew, so that they use that one. */
-    private static final class Loader extends URLClassLoader {
-        private final Map<String, byte[]> classes;
-
-        Loader(Map<String, byte[]> classes) {
-            super(new URL[] {MutantsTest.class.getProtectionDomain().getCodeSource().getLocation()}, ClassLoader.getPlatformClassLoader());
-            this.classes = classes;
-        }
-
-        @Override protected Class<?> findClass(String name) throws ClassNotFoundException {
-            byte[] bytes = classes.get(name);
-            return bytes == null ? super.findClass(name) : defineClass(name, bytes, 0, bytes.length);
         }
     }
 }
